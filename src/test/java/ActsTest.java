@@ -202,6 +202,7 @@ public final class ActsTest {
         CHECK.due("the least of 3 nights", x.span(3, false), least);
         CHECK.due("the most of 3 nights", x.span(3, true), most);
         CHECK.due("they are not all one", least < most, true);
+        spansBySeed();
         CHECK.due("the seed stays", x.seed(1), 99);
         CHECK.noArgument("span(61)", () -> x.span(61, true));
         CHECK.noArgument("span(-1)", () -> x.span(-1, false));
@@ -210,6 +211,26 @@ public final class ActsTest {
         CHECK.due("span of 0 has those out now", x.span(0, false), 7);
         DreamFort z = Check.made("prisoner years 7 marks ab;sleeper sleep 100;sleeper sleep 100;told 0 0 a;told 1 0 b");
         CHECK.due("more dreams than the log has rows", z.trial(60, true), 120);
+    }
+
+    /** One sleeper's least draw of 100 from each seed: so great must its chance be, and 1 more, for a dream. */
+    private static void spansBySeed() {
+        int[] ofOneNight = {38, 8, 47, 17, 55, 26};
+        int[] ofSevenNights = {10, 8, 7, 7, 4, 15};
+        for (int chance = 0; chance <= 100; chance++) {
+            DreamFort x = Check.made("prisoner years 8 marks ab;sleeper sleep " + chance + ";told 0 0 ab");
+            spanBySeed(x, chance, 1, ofOneNight);
+            spanBySeed(x, chance, 7, ofSevenNights);
+        }
+    }
+
+    private static void spanBySeed(DreamFort x, int chance, int n, int[] leastDraws) {
+        int outs = 0;
+        for (int draw : leastDraws) {
+            outs += draw < chance ? 1 : 0;
+        }
+        CHECK.due("the least of " + n + " nights at " + chance, x.span(n, false), outs == 6 ? 8 : 0);
+        CHECK.due("the most of " + n + " nights at " + chance, x.span(n, true), outs > 0 ? 8 : 0);
     }
 
     private static void logs() {
@@ -285,6 +306,24 @@ public final class ActsTest {
         x.undo();
         CHECK.due("out again", x.out(), 1);
         undoingMany(x);
+        undoingRows();
+    }
+
+    private static void undoingRows() {
+        DreamFort x = Check.made("prisoner years 7 marks ab;prisoner years 7 marks ab;sleeper sleep 100;sleeper sleep 100;told 0 0 a;"
+                + "told 1 1 b;night 70");
+        x.nights(31);
+        x.forget(1);
+        x.tell(1, 0, 1);
+        x.nights(40);
+        CHECK.due("rows of 1 are gone", x.led(1, false), 0);
+        x.undo();
+        CHECK.due("rows of 1 are there again", x.led(1, false), 30);
+        CHECK.due("the latest row", x.log(0, 2), 1);
+        CHECK.due("its night", x.log(0, 0), 100);
+        CHECK.due("the oldest row's night", x.log(59, 0), 71);
+        x.nights(1);
+        CHECK.due("rows go on behind it", x.log(2, 2), 1);
     }
 
     private static void undoingMany(DreamFort x) {

@@ -134,6 +134,10 @@ public final class KnownTest {
         x.tell(2, 0, 1);
         x.tell(2, 0, 2);
         CHECK.due("twice now", x.twice(), 1);
+        Check.put(x, "sleeper sleep 1;told 3 1 ab");
+        x.fortress();
+        CHECK.due("both twice", x.twice(), 3);
+        x.forget(3);
         CHECK.due("vain now", x.vain(), 0);
         x.strict(3);
         CHECK.due("all in vain", x.vain(), 7);
@@ -174,6 +178,9 @@ public final class KnownTest {
         CHECK.due("out", x.out(), 0);
         CHECK.due("awake", x.awake(), 16);
         CHECK.due("twins", x.twins(), 4);
+        x.cheese(2, 1);
+        CHECK.due("twins of like cheese, too", x.twins(), 2);
+        x.undo();
         CHECK.due("mark(0)", x.mark(0), 1);
         CHECK.due("mark(1)", x.mark(1), 3);
         CHECK.due("mark(5)", x.mark(5), 0);

@@ -85,6 +85,15 @@ public final class PlansTest {
         DreamFort z = Check.made("prisoner years 1 marks ab;sleeper sleep 100;told 0 0 ab");
         z.nights(1);
         CHECK.due("one out", z.need(0, 0), -1);
+        DreamFort six = Check.made("prisoner years 1 marks abcdef;prisoner years 1 marks abcdef;sleeper sleep 0;strict 6");
+        CHECK.due("all six marks", six.need(0, 0), 63);
+        CHECK.due("all six marks of the other", six.need(0, 1), 63);
+        six.strict(1);
+        six.tell(0, 1, 2);
+        CHECK.due("one that pulls as much as a later one", six.need(0, 0), 1);
+        six.forget(0);
+        six.tell(0, 0, 2);
+        CHECK.due("one that must pull more than an earlier one", six.need(0, 1), 3);
     }
 
     private static void covers() {
@@ -111,6 +120,10 @@ public final class PlansTest {
         CHECK.due("whom 4", y.whom(0, 4), 15);
         CHECK.due("cover 4", y.cover(0, 4), 5);
         CHECK.due("cover 5 of 4", y.cover(0, 5), -1);
+        Check.put(y, "sleeper sleep 1;sleeper sleep 1");
+        y.fortress();
+        CHECK.due("cover 6", y.cover(0, 6), 9);
+        CHECK.due("whom 6", y.whom(0, 6), 63);
     }
 
     private static void outs() {
@@ -135,8 +148,11 @@ public final class PlansTest {
         CHECK.due("the first with sleeper 0", y.outs(0, 36), 0);
         CHECK.due("the second with sleeper 1", y.outs(1, 36), 1);
         CHECK.due("none for 0 years", y.outs(2, 36), -1);
-        DreamFort z = new DreamFort();
-        CHECK.due("outs of nobody", z.outs(-1, 0), 0);
+        DreamFort z = Check.made("prisoner years 5 marks ab;prisoner years 5 marks ab;sleeper sleep 1;sleeper sleep 1");
+        CHECK.due("years of one of two", z.outs(-1, 3), 5);
+        CHECK.due("none for the first of two", z.outs(0, 3), -1);
+        CHECK.due("the second of two with sleeper 0", z.outs(1, 3), 0);
+        CHECK.due("outs of nobody", new DreamFort().outs(-1, 0), 0);
     }
 
     private static void never() {
@@ -287,6 +303,13 @@ public final class PlansTest {
         // by 0 and 1 nothing is new for sleeper 0, who dreams of 0 whatever comes; sleeper 1 parts them 3 and 2
         rumourAll(x, 5, 0, 1);
         rumourAll(x, 5, 0, 1, 0, 0);
+        // four of one mark each: sleeper 1 dreams of 0 but by what is told of 1; sleeper 0 parts all four
+        DreamFort four = Check.made("prisoner years 1 marks a;prisoner years 1 marks b;prisoner years 1 marks c;prisoner years 1 marks d;"
+                + "sleeper sleep 1;sleeper sleep 1;told 0 0 a;told 1 0 a;told 1 1 b",
+                "pull 1 if sleeper > 0 and prisoner < 1;pull 3 if sleeper < 1 and prisoner > 0");
+        rumourAll(four, 4, 0, 0);
+        rumourAll(four, 4, 0, 0, 1, 0);
+        rumourAll(four, 1, 14, -1, 0, 2);
         // one out pulls at nobody, but his marks are pairs, too
         DreamFort y = Check.made("prisoner years 1 marks ab;prisoner years 1 marks c;sleeper sleep 100;told 0 0 ab");
         y.nights(1);

@@ -81,14 +81,17 @@ public final class TextsTest {
         CHECK.due("told of the new ones", x.told(2, 2), 4);
         CHECK.due("the new one met", x.sleeper(2, 3), 4);
         CHECK.due("what was there stays", x.told(1, 0), 1 + 16 + 32);
+        Check.put(x, "sleeper sleep 5 awake;sleeper sleep 5 awake");
+        CHECK.due("a third text", x.fortress(), 3);
+        CHECK.due("all that are awake", x.awake(), 1 + 8 + 16);
         Check.put(x, "sleepersleep 5");
         CHECK.noArgument("words that stick together", () -> x.fortress());
         CHECK.due("their fault", x.fault(), 0);
         Check.put(x, "strict 1;night 3;sleeper sleep 1;wrong");
         CHECK.noArgument("a text that is wrong at its end", () -> x.fortress());
-        CHECK.due("nothing stays of it: sleepers", x.count(1), 3);
+        CHECK.due("nothing stays of it: sleepers", x.count(1), 5);
         CHECK.due("nothing stays of it: strict", x.count(5), 6);
-        CHECK.due("nothing stays of it: texts", x.count(2), 2);
+        CHECK.due("nothing stays of it: texts", x.count(2), 3);
     }
 
     private static void wrongFortress(String text, int fault) {
@@ -115,6 +118,11 @@ public final class TextsTest {
         wrongFortress("prisoner years 1 marks a b", 25);
         wrongFortress("prisoner years 1 marks A", 23);
         wrongFortress("prisoner years 1 2", 17);
+        wrongFortress("prisoner years 1 marks az", 23);
+        wrongFortress("sleeper", 7);
+        wrongFortress("sleeper sleep", 13);
+        wrongFortress("sleeper sleep 1 cheese", 22);
+        wrongFortress("sleeper sleep 1 met", 19);
         wrongFortress("sleeper sleep 101", 14);
         wrongFortress("sleeper sleep 1 cheese 10", 23);
         wrongFortress("sleeper sleep 1 met 1", 20);
@@ -122,7 +130,11 @@ public final class TextsTest {
         wrongFortress("sleeper sleep 1 met 0 cheese 1", 22);
         wrongFortress("sleeper sleep 1 awake met 0", 22);
         wrongFortress("sleeper sleep 1 awake awake", 22);
+        wrongFortress("told", 4);
+        wrongFortress("told 0", 6);
         wrongFortress("told 1 0 a", 5);
+        wrongFortress("strict", 6);
+        wrongFortress("night", 5);
         wrongFortress("told 0 1 a", 7);
         wrongFortress("told 0 0", 8);
         wrongFortress("told 0 0 abc", 9);
@@ -252,6 +264,10 @@ public final class TextsTest {
         wrongLaw("fade if (told) > 2", 13);
         wrongLaw("fade if met and", 15);
         wrongLaw("fade if met and or", 16);
+        wrongLaw("fade if met or", 14);
+        wrongLaw("fade if met or ;fade", 15);
+        wrongLaw("fade if 1 +", 11);
+        wrongLaw("fade if 1 > 1 +", 15);
         wrongLaw("fade if metand met", 8);
         wrongLaw("fade if met met", 12);
         wrongLaw("fade if (met", 12);
