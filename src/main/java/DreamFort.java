@@ -38,10 +38,11 @@ public final class DreamFort {
     private int tapeLength;
     private int wrongByte = NONE;
     private final Text text = new Text();
+    private final FortressReader fortressReader = new FortressReader();
+    private final LawReader lawReader = new LawReader();
     private final Fort fort = new Fort();
     private final Fort scratch = new Fort();
     private final Law law = new Law();
-    private final Law draftLaw = new Law();
     private final Fort imageFort = new Fort();
     private final Law imageLaw = new Law();
     private boolean imaged;
@@ -49,7 +50,6 @@ public final class DreamFort {
     private int pastNext;
     private int pastCount;
     private final Minds minds = new Minds();
-    private final Night nightWatch = new Night();
     private final Plans plans = new Plans();
     private final Couples pairing = new Couples();
     private final Rumours rumours = new Rumours();
@@ -99,8 +99,8 @@ public final class DreamFort {
 
     public int fortress() throws IllegalArgumentException, UnsupportedOperationException {
         text.split(tape, useTapeUp());
-        scratch.copyFrom(fort);
-        boolean right = FortressReader.read(text, scratch);
+        fortressReader.draft.copyFrom(fort);
+        boolean right = fortressReader.readLines(text, FORTRESS_LINES);
         wrongByte = right ? NONE : text.begin();
         if (!right) {
             throw new IllegalArgumentException("the text of the fortress is wrong");
@@ -108,20 +108,21 @@ public final class DreamFort {
         if (fort.texts >= MOST_TEXTS) {
             throw new UnsupportedOperationException("there are 12 texts of the fortress");
         }
-        scratch.texts++;
-        fort.copyFrom(scratch);
+        fort.copyFrom(fortressReader.draft);
+        fort.texts++;
         dropPast();
         return fort.texts;
     }
 
     public int law() throws IllegalArgumentException {
         text.split(tape, useTapeUp());
-        boolean right = LawReader.read(text, draftLaw);
+        lawReader.draft.clear();
+        boolean right = lawReader.readLines(text, LAW_LINES);
         wrongByte = right ? NONE : text.begin();
         if (!right) {
             throw new IllegalArgumentException("the text of the law is wrong");
         }
-        law.copyFrom(draftLaw);
+        law.copyFrom(lawReader.draft);
         dropPast();
         return law.lines;
     }
@@ -271,7 +272,7 @@ public final class DreamFort {
         remember();
         int before = Integer.bitCount(fort.out);
         for (int i = 0; i < n; i++) {
-            nightWatch.pass(fort, law, minds);
+            minds.passNight(fort, law);
         }
         return Integer.bitCount(fort.out) - before;
     }
@@ -681,7 +682,7 @@ public final class DreamFort {
         requireNightsAhead(n);
         scratch.copyFrom(fort);
         for (int i = 0; i < n; i++) {
-            nightWatch.close(scratch, law, minds);
+            minds.closeNight(scratch, law);
         }
         return scratch.toldOf(sleeper, prisoner);
     }
@@ -689,7 +690,7 @@ public final class DreamFort {
     public int trial(int n, boolean dreams) throws IllegalArgumentException {
         requireNightsAhead(n);
         tryNights(n, fort.seed);
-        return dreams ? nightWatch.dreams : scratch.out;
+        return dreams ? minds.dreams : scratch.out;
     }
 
     public int span(int n, boolean most) throws IllegalArgumentException {
@@ -707,9 +708,9 @@ public final class DreamFort {
     private void tryNights(int n, int seed) {
         scratch.copyFrom(fort);
         scratch.seed = seed;
-        nightWatch.dreams = 0;
+        minds.dreams = 0;
         for (int i = 0; i < n; i++) {
-            nightWatch.pass(scratch, law, minds);
+            minds.passNight(scratch, law);
         }
     }
 
@@ -1152,14 +1153,15 @@ public final class DreamFort {
         }
     }
 
-    /** Reads a text of THE FORTRESS into a draft, which is of no use if the text is wrong. */
-    private static final class FortressReader {
-        static boolean read(Text text, Fort draft) {
+    /** Reads a text LINE by LINE. */
+    private abstract static class LineReader {
+        /** Whether a text has LINES, at most so many, with ; between them, or none at all. */
+        boolean readLines(Text text, int most) {
             if (text.isAt(Kind.END)) {
                 return true;
             }
-            for (int line = 0; line < FORTRESS_LINES; line++) {
-                if (!readLine(text, draft)) {
+            for (int line = 0; line < most; line++) {
+                if (!readLine(text)) {
                     return false;
                 }
                 if (text.isAt(Kind.END)) {
@@ -1172,15 +1174,23 @@ public final class DreamFort {
             return false;
         }
 
-        private static boolean readLine(Text text, Fort draft) {
+        abstract boolean readLine(Text text);
+    }
+
+    /** Reads a text of THE FORTRESS into its draft, which is of no use if the text is wrong. */
+    private static final class FortressReader extends LineReader {
+        private final Fort draft = new Fort();
+
+        @Override
+        boolean readLine(Text text) {
             if (text.isAt(Kind.PRISONER)) {
-                return draft.prisoners < MOST_PRISONERS && readPrisoner(text, draft);
+                return draft.prisoners < MOST_PRISONERS && readPrisoner(text);
             }
             if (text.isAt(Kind.SLEEPER)) {
-                return draft.sleepers < MOST_SLEEPERS && readSleeper(text, draft);
+                return draft.sleepers < MOST_SLEEPERS && readSleeper(text);
             }
             if (text.take(Kind.TOLD)) {
-                return readTold(text, draft);
+                return readTold(text);
             }
             if (text.take(Kind.STRICT)) {
                 draft.strict = text.takeNumber(1, MOST_STRICT);
@@ -1193,7 +1203,7 @@ public final class DreamFort {
             return false;
         }
 
-        private static boolean readPrisoner(Text text, Fort draft) {
+        private boolean readPrisoner(Text text) {
             if (!text.take(Kind.PRISONER) || !text.take(Kind.YEARS)) {
                 return false;
             }
@@ -1211,7 +1221,7 @@ public final class DreamFort {
             return true;
         }
 
-        private static boolean readSleeper(Text text, Fort draft) {
+        private boolean readSleeper(Text text) {
             if (!text.take(Kind.SLEEPER) || !text.take(Kind.SLEEP)) {
                 return false;
             }
@@ -1241,7 +1251,7 @@ public final class DreamFort {
             return true;
         }
 
-        private static boolean readTold(Text text, Fort draft) {
+        private boolean readTold(Text text) {
             int sleeper = text.takeNumber(0, draft.sleepers - 1);
             if (sleeper == NONE) {
                 return false;
@@ -1379,28 +1389,12 @@ public final class DreamFort {
         }
     }
 
-    /** Reads a text of THE LAW into a draft, which is of no use if the text is wrong. */
-    private static final class LawReader {
-        static boolean read(Text text, Law draft) {
-            draft.clear();
-            if (text.isAt(Kind.END)) {
-                return true;
-            }
-            for (int line = 0; line < LAW_LINES; line++) {
-                if (!readLine(text, draft)) {
-                    return false;
-                }
-                if (text.isAt(Kind.END)) {
-                    return true;
-                }
-                if (!text.take(Kind.SEMICOLON)) {
-                    return false;
-                }
-            }
-            return false;
-        }
+    /** Reads a text of THE LAW into its draft, which is of no use if the text is wrong. */
+    private static final class LawReader extends LineReader {
+        private final Law draft = new Law();
 
-        private static boolean readLine(Text text, Law draft) {
+        @Override
+        boolean readLine(Text text) {
             int kind = takeLineKind(text);
             if (kind == NONE) {
                 return false;
@@ -1410,7 +1404,7 @@ public final class DreamFort {
                 return false;
             }
             int begin = draft.size;
-            if (text.take(Kind.IF) && !readCondition(text, draft, 0)) {
+            if (text.take(Kind.IF) && !readCondition(text, 0)) {
                 return false;
             }
             draft.addLine(kind, amount, begin);
@@ -1427,12 +1421,12 @@ public final class DreamFort {
             return text.take(Kind.FADE) ? Law.FADE_LINE : NONE;
         }
 
-        private static boolean readCondition(Text text, Law draft, int depth) {
-            if (!readAll(text, draft, depth)) {
+        private boolean readCondition(Text text, int depth) {
+            if (!readAll(text, depth)) {
                 return false;
             }
             for (int i = 0; i < MOST_TAPE && text.take(Kind.OR); i++) {
-                if (!readAll(text, draft, depth)) {
+                if (!readAll(text, depth)) {
                     return false;
                 }
                 draft.addStep(Law.OR);
@@ -1440,12 +1434,12 @@ public final class DreamFort {
             return true;
         }
 
-        private static boolean readAll(Text text, Law draft, int depth) {
-            if (!readAtom(text, draft, depth)) {
+        private boolean readAll(Text text, int depth) {
+            if (!readAtom(text, depth)) {
                 return false;
             }
             for (int i = 0; i < MOST_TAPE && text.take(Kind.AND); i++) {
-                if (!readAtom(text, draft, depth)) {
+                if (!readAtom(text, depth)) {
                     return false;
                 }
                 draft.addStep(Law.AND);
@@ -1453,45 +1447,45 @@ public final class DreamFort {
             return true;
         }
 
-        private static boolean readAtom(Text text, Law draft, int depth) {
+        private boolean readAtom(Text text, int depth) {
             if (text.isAt(Kind.NOT) || text.isAt(Kind.OPEN)) {
-                return depth < DEEPEST && readDeeper(text, draft, depth + 1);
+                return depth < DEEPEST && readDeeper(text, depth + 1);
             }
             int fact = text.takeFact(Law.MET, Law.AWAKE);
             if (fact != NONE) {
                 draft.addStep(fact);
                 return true;
             }
-            return readComparison(text, draft);
+            return readComparison(text);
         }
 
-        private static boolean readDeeper(Text text, Law draft, int depth) {
+        private boolean readDeeper(Text text, int depth) {
             if (text.take(Kind.NOT)) {
-                if (!readAtom(text, draft, depth)) {
+                if (!readAtom(text, depth)) {
                     return false;
                 }
                 draft.addStep(Law.NOT);
                 return true;
             }
-            return text.take(Kind.OPEN) && readCondition(text, draft, depth) && text.take(Kind.CLOSE);
+            return text.take(Kind.OPEN) && readCondition(text, depth) && text.take(Kind.CLOSE);
         }
 
-        private static boolean readComparison(Text text, Law draft) {
-            if (!readSum(text, draft)) {
+        private boolean readComparison(Text text) {
+            if (!readSum(text)) {
                 return false;
             }
             boolean less = text.take(Kind.LESS);
             if (!less && !text.take(Kind.MORE)) {
                 return false;
             }
-            if (!readSum(text, draft)) {
+            if (!readSum(text)) {
                 return false;
             }
             draft.addStep(less ? Law.LESS : Law.MORE);
             return true;
         }
 
-        private static boolean readSum(Text text, Law draft) {
+        private boolean readSum(Text text) {
             int part = takePart(text);
             if (part == NONE) {
                 return false;
@@ -1514,7 +1508,7 @@ public final class DreamFort {
         }
     }
 
-    /** What goes on in the sleepers' heads: PULL, DREAM, GOOD and CHANCE of all, as they were when last studied. */
+    /** What goes on in the sleepers' heads: PULL, DREAM, GOOD and CHANCE of all, as when last studied, and NIGHTS. */
     private static final class Minds {
         private final int[] pulls = new int[PAIRS];
         private final int[] dream = new int[MOST_SLEEPERS];
@@ -1522,6 +1516,8 @@ public final class DreamFort {
         /** SLEEPERS whose DREAM is GOOD, as bits. */
         private int good;
         private final int[] facts = new int[Law.FACTS];
+        /** How many dreams there were since this was last set to 0. */
+        private int dreams;
 
         void study(Fort fort, Law law) {
             good = 0;
@@ -1566,11 +1562,6 @@ public final class DreamFort {
             return Math.max(0, Math.min(100, fort.sleep[s] + 5 * fort.cheese[s] - wakes));
         }
 
-        boolean fades(Fort fort, Law law, int s, int p) {
-            gather(fort, s, p);
-            return law.total(Law.FADE_LINE, facts) > 0;
-        }
-
         private void gatherSleeper(Fort fort, int s) {
             for (int i = 0; i < Law.FACTS; i++) {
                 facts[i] = 0;
@@ -1589,6 +1580,40 @@ public final class DreamFort {
             facts[Law.TOLD] = Integer.bitCount(fort.toldOf(s, p));
             facts[Law.MET] = fort.hasMet(s, p) ? 1 : 0;
             facts[Law.SHARED] = fort.isShared(s, p) ? 1 : 0;
+        }
+
+        /** A NIGHT more. */
+        void passNight(Fort fort, Law law) {
+            study(fort, law);
+            int freed = 0;
+            for (int s = 0; s < fort.sleepers; s++) {
+                boolean dreaming = fort.draw() % 100 < chance[s];
+                if (dreaming && dream[s] != NONE) {
+                    dreams++;
+                    fort.addLogRow(s, dream[s], isGood(s) ? 1 : 0);
+                    freed |= isGood(s) ? 1 << dream[s] : 0;
+                }
+            }
+            fort.out |= freed;
+            closeNight(fort, law);
+        }
+
+        /** What comes behind the dreams: fading, and no enemy's doing lasts. */
+        void closeNight(Fort fort, Law law) {
+            for (int s = 0; s < fort.sleepers; s++) {
+                for (int p = 0; p < fort.prisoners; p++) {
+                    if (fort.toldOf(s, p) != 0 && fades(fort, law, s, p)) {
+                        fort.fadeLeastMark(s, p);
+                    }
+                }
+            }
+            fort.awake = 0;
+            fort.night = Math.min(LAST_NIGHT, fort.night + 1);
+        }
+
+        private boolean fades(Fort fort, Law law, int s, int p) {
+            gather(fort, s, p);
+            return law.total(Law.FADE_LINE, facts) > 0;
         }
 
         /**
@@ -1639,42 +1664,6 @@ public final class DreamFort {
                 }
             }
             return pulled > 0;
-        }
-    }
-
-    /** A NIGHT more. */
-    private static final class Night {
-        /** How many dreams there were since this was last set to 0. */
-        private int dreams;
-
-        void pass(Fort fort, Law law, Minds minds) {
-            minds.study(fort, law);
-            int freed = 0;
-            for (int s = 0; s < fort.sleepers; s++) {
-                boolean asleep = fort.draw() % 100 < minds.chance[s];
-                int dreamt = minds.dream[s];
-                if (asleep && dreamt != NONE) {
-                    boolean good = minds.isGood(s);
-                    dreams++;
-                    fort.addLogRow(s, dreamt, good ? 1 : 0);
-                    freed |= good ? 1 << dreamt : 0;
-                }
-            }
-            fort.out |= freed;
-            close(fort, law, minds);
-        }
-
-        /** What comes behind the dreams: fading, and no enemy's doing lasts. */
-        void close(Fort fort, Law law, Minds minds) {
-            for (int s = 0; s < fort.sleepers; s++) {
-                for (int p = 0; p < fort.prisoners; p++) {
-                    if (fort.toldOf(s, p) != 0 && minds.fades(fort, law, s, p)) {
-                        fort.fadeLeastMark(s, p);
-                    }
-                }
-            }
-            fort.awake = 0;
-            fort.night = Math.min(LAST_NIGHT, fort.night + 1);
         }
     }
 

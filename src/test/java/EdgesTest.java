@@ -9,7 +9,7 @@ import java.util.List;
  * or throws what the document names for it and nothing else, and what throws changes nothing.
  */
 public final class EdgesTest {
-    private static final int[] NUMBERS = {Integer.MIN_VALUE, -2, -1, 0, 1, 5, 6, 7, 9, 10, 12, 36, 37, 60, 61, 99, 100, 10000, 10001,
+    private static final int[] NUMBERS = {Integer.MIN_VALUE, -2, -1, 0, 1, 2, 3, 4, 5, 6, 7, 8, 9, 10, 12, 36, 37, 60, 61, 99, 100, 10000, 10001,
         Integer.MAX_VALUE};
     private static int looked;
     private static int wrong;

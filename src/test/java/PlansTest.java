@@ -85,6 +85,10 @@ public final class PlansTest {
         DreamFort z = Check.made("prisoner years 1 marks ab;sleeper sleep 100;told 0 0 ab");
         z.nights(1);
         CHECK.due("one out", z.need(0, 0), -1);
+        DreamFort less = Check.made("prisoner years 1 marks abc;prisoner years 1 marks abc;sleeper sleep 1;told 0 0 b;told 0 1 c",
+                "pull 50 if told < 2 and prisoner < 1");
+        CHECK.due("a need by which he pulls less than he did", less.need(0, 0), 1);
+        CHECK.due("none against one who pulls so much", less.need(0, 1), -1);
         DreamFort six = Check.made("prisoner years 1 marks abcdef;prisoner years 1 marks abcdef;sleeper sleep 0;strict 6");
         CHECK.due("all six marks", six.need(0, 0), 63);
         CHECK.due("all six marks of the other", six.need(0, 1), 63);
