@@ -1181,7 +1181,6 @@ public final class DreamFort {
     private static final class FortressReader extends LineReader {
         private final Fort draft = new Fort();
 
-        @Override
         boolean readLine(Text text) {
             if (text.isAt(Kind.PRISONER)) {
                 return draft.prisoners < MOST_PRISONERS && readPrisoner(text);
@@ -1393,7 +1392,6 @@ public final class DreamFort {
     private static final class LawReader extends LineReader {
         private final Law draft = new Law();
 
-        @Override
         boolean readLine(Text text) {
             int kind = takeLineKind(text);
             if (kind == NONE) {
