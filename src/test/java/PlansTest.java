@@ -252,6 +252,12 @@ public final class PlansTest {
     }
 
     private static void swornTapes() {
+        DreamFort full = Check.made("prisoner years 1 marks a;prisoner years 1 marks b;prisoner years 1 marks c;prisoner years 1 marks d;"
+                + "prisoner years 1 marks e;prisoner years 1 marks ef;sleeper sleep 1;sleeper sleep 1;told 0 5 e;told 1 5 f");
+        swornAll(full, 48, 5, 5, 4, 1, 5, 1, 0, 0, 4, 1);
+        swornAll(full, 63, 5, 4, 5, 1);
+        // a mark told of any other pulls as much as the one told of 5, and the least number goes first
+        rumourAll(full, 2, 34, 0, 0, 5);
         int[] forty = new int[40];
         swornAll(Check.made("prisoner years 1 marks b"), 1, 0, -1, forty);
         int[][] wrong = {{0}, {0, 2}, {6, 0}, {0, 255}, {255, 1}, {0, 1, 1}, new int[42]};

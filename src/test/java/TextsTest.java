@@ -45,6 +45,12 @@ public final class TextsTest {
         CHECK.due("feed beyond 400", x.feed(1, 2, 3, 4, 5), -1);
         CHECK.due("end(399)", x.end(399), true);
         CHECK.due("feed from 399", x.feed(1, 2, 3, 4, 5), -1);
+        CHECK.due("nothing came", x.end(400), false);
+        x.end(381);
+        CHECK.due("feed from 381", x.feed(1, 2, 3, 4, 5), -1);
+        x.end(380);
+        CHECK.due("feed from 380", x.feed(0x20202020, 0x20202020, 0x20202020, 0x20202020, 0x20202020), 400);
+        x.end(399);
         CHECK.due("399 blanks are a text without lines", x.fortress(), 1);
         CHECK.due("the tape was used up", x.end(1), false);
         // "nigh" "t 12" "3   ", the highest byte first
