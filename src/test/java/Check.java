@@ -66,6 +66,9 @@ final class Check {
     }
 
     static void put(DreamFort x, byte[] bytes) {
+        if (bytes.length > 400) {
+            throw new IllegalArgumentException("a test's tape of " + bytes.length + " bytes");
+        }
         x.end(0);
         int[] five = new int[5];
         for (int from = 0; from < bytes.length; from += 20) {
