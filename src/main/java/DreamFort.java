@@ -1133,14 +1133,24 @@ public final class DreamFort {
             return number;
         }
 
-        /** A word that asks for one of these facts of THE LAW. */
-        int takeFact(int first, int last) {
-            int fact = kinds[at].fact;
-            if (fact < first || fact > last) {
+        /** A word that asks of THE LAW whether something is so: the step that it is. */
+        int takeAtomWord() {
+            int step = kinds[at].fact;
+            if (step <= Law.TOLD) {
                 return NONE;
             }
             at++;
-            return fact;
+            return step;
+        }
+
+        /** A number, or a word that asks THE LAW for one: the step that it is. */
+        int takePart() {
+            int step = kinds[at] == Kind.NUMBER ? Law.NUMBER + values[at] : kinds[at].fact;
+            if (step == NONE || step > Law.TOLD && step < Law.NUMBER || step >= Law.NUMBER + TOO_MANY_DIGITS) {
+                return NONE;
+            }
+            at++;
+            return step;
         }
 
         int takeMarks(int allowed) {
@@ -1419,37 +1429,32 @@ public final class DreamFort {
             return text.take(Kind.FADE) ? Law.FADE_LINE : NONE;
         }
 
+        /** As and binds more than or, the step of an or comes only when all that is bound by and behind it has been read. */
         private boolean readCondition(Text text, int depth) {
-            if (!readAll(text, depth)) {
-                return false;
-            }
-            for (int i = 0; i < MOST_TAPE && text.take(Kind.OR); i++) {
-                if (!readAll(text, depth)) {
-                    return false;
+            boolean behindOr = false;
+            for (int i = 0; i < MOST_TAPE && readAtom(text, depth); i++) {
+                for (int j = 0; j < MOST_TAPE && text.take(Kind.AND); j++) {
+                    if (!readAtom(text, depth)) {
+                        return false;
+                    }
+                    draft.addStep(Law.AND);
                 }
-                draft.addStep(Law.OR);
-            }
-            return true;
-        }
-
-        private boolean readAll(Text text, int depth) {
-            if (!readAtom(text, depth)) {
-                return false;
-            }
-            for (int i = 0; i < MOST_TAPE && text.take(Kind.AND); i++) {
-                if (!readAtom(text, depth)) {
-                    return false;
+                if (behindOr) {
+                    draft.addStep(Law.OR);
                 }
-                draft.addStep(Law.AND);
+                if (!text.take(Kind.OR)) {
+                    return true;
+                }
+                behindOr = true;
             }
-            return true;
+            return false;
         }
 
         private boolean readAtom(Text text, int depth) {
             if (text.isAt(Kind.NOT) || text.isAt(Kind.OPEN)) {
                 return depth < DEEPEST && readDeeper(text, depth + 1);
             }
-            int fact = text.takeFact(Law.MET, Law.AWAKE);
+            int fact = text.takeAtomWord();
             if (fact != NONE) {
                 draft.addStep(fact);
                 return true;
@@ -1484,13 +1489,13 @@ public final class DreamFort {
         }
 
         private boolean readSum(Text text) {
-            int part = takePart(text);
+            int part = text.takePart();
             if (part == NONE) {
                 return false;
             }
             draft.addStep(part);
             for (int i = 0; i < MOST_TAPE && text.take(Kind.PLUS); i++) {
-                part = takePart(text);
+                part = text.takePart();
                 if (part == NONE) {
                     return false;
                 }
@@ -1498,11 +1503,6 @@ public final class DreamFort {
                 draft.addStep(Law.ADD);
             }
             return true;
-        }
-
-        private static int takePart(Text text) {
-            int number = text.takeNumber(0, 999);
-            return number == NONE ? text.takeFact(Law.SLEEPER, Law.TOLD) : Law.NUMBER + number;
         }
     }
 

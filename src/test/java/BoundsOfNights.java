@@ -93,7 +93,10 @@ final class BoundsOfNights {
                 + "told 0 0 ab;told 1 0 ab;told 0 1 ab;told 1 1 ab";
         String[] none = {"met", "shared", "awake", "prisoner > 0", "years > 0", "marks > 0", "told > 0"};
         for (String condition : none) {
-            b.is("wake if " + condition, Check.made(house, "wake 30 if " + condition).sleeper(1, 4), 100);
+            DreamFort x = Check.made(house, "wake 30 if " + condition);
+            b.is("wake if " + condition, x.sleeper(1, 4), 100);
+            b.is("a pull that is asked for", x.pull(1, 1), 4);
+            b.is("behind it wake if " + condition, x.sleeper(1, 4), 100);
             b.is("wake if not " + condition, Check.made(house, "wake 30 if not " + condition).sleeper(1, 4), 70);
         }
         b.is("by the sleeper's number", Check.made(house, "wake 30 if sleeper > 0").sleeper(1, 4), 70);
@@ -578,6 +581,7 @@ final class BoundsOfNights {
             b.is("the greatest at " + row[0], x.span(1, true), row[2]);
             b.same("nothing stays", Bounds.seen(x), before);
         }
+        spansOfEachSeed();
         DreamFort x = open();
         b.is("0 nights", x.span(0, true), 0);
         b.is("all whom a night lets out", x.span(1, false), 37);
@@ -592,6 +596,41 @@ final class BoundsOfNights {
         b.says(47, "IllegalArgumentException: N is none.");
         b.refusesEach(x, Bounds.NO_NUMBER, "span", n -> () -> x.span(n, false), BEYOND_60);
         b.refusesEach(x, Bounds.NO_NUMBER, "span, the most", n -> () -> x.span(n, true), BEYOND_60);
+    }
+
+    /** In so many nights that each of the six seeds once has the least or the greatest draw, where all turns by it. */
+    private void spansOfEachSeed() {
+        int decisive = 0;
+        for (int n = 1; n <= 60; n++) {
+            int[] least = new int[6];
+            for (int i = 0; i < 6; i++) {
+                least[i] = leastDraw(i + 1, n);
+            }
+            int[] sorted = least.clone();
+            java.util.Arrays.sort(sorted);
+            for (int i = 0; i < 6; i++) {
+                boolean first = least[i] == sorted[0] && sorted[0] < sorted[1];
+                boolean last = least[i] == sorted[5] && sorted[5] > sorted[4];
+                decisive |= first || last ? 1 << i : 0;
+            }
+            for (int chance : new int[] {sorted[0], sorted[0] + 1, sorted[5], sorted[5] + 1}) {
+                DreamFort x = Check.made("prisoner years 99 marks ab;sleeper sleep " + chance + ";told 0 0 ab");
+                b.is("the least of " + n + " nights at " + chance, x.span(n, false), sorted[5] < chance ? 99 : 0);
+                b.is("the greatest of " + n + " nights at " + chance, x.span(n, true), sorted[0] < chance ? 99 : 0);
+            }
+        }
+        b.is("each of the six seeds counted", decisive, 63);
+    }
+
+    /** The least of so many draws of one sleeper, modulo 100. */
+    private static int leastDraw(int seed, int n) {
+        int least = 100;
+        int at = seed;
+        for (int i = 0; i < n; i++) {
+            at = seedBehind(at);
+            least = Math.min(least, (int) ((at & 0xffffffffL) / 65536 % 32768 % 100));
+        }
+        return least;
     }
 
     private void led() {
@@ -660,7 +699,8 @@ final class BoundsOfNights {
     private void undone() {
         b.says(Bounds.TERMS, "UNDONE: the latest ACT not undone yet (12 are remembered; NIGHTS of one call are one): all is as ahead of it (but for"
                 + " the TAPE, fault(), THE IMAGE).");
-        DreamFort x = open();
+        // dreams in vain go on night by night, so that the log is full soon and its rows go round
+        DreamFort x = Check.made("prisoner years 7 marks ab;prisoner years 9 marks cd;sleeper sleep 20;sleeper sleep 100;told 0 0 ab;told 1 1 c");
         x.image();
         String[] seen = new String[14];
         for (int i = 0; i < 14; i++) {

@@ -152,6 +152,8 @@ final class BoundsOfPlans {
         b.is("by a law that asks for three", law.need(0, 0), 7);
         law.tell(1, 0, 3);
         b.is("shared by all else as it is", law.need(0, 0), 1);
+        DreamFort less = Check.made("prisoner years 1 marks abc;sleeper sleep 0;told 0 0 b", "pull 50 if told < 2");
+        b.is("though he pulls less then than he does now", less.need(0, 0), 1);
     }
 
     private void noNeeds() {
@@ -208,6 +210,15 @@ final class BoundsOfPlans {
     }
 
     private void coverAndWhom() {
+        b.says(23, "WHOM, as bits; NONE.");
+        DreamFort sixth = Check.made(BoundsOfTexts.times(6, "prisoner years 1 marks ab") + ";" + BoundsOfTexts.times(6, "sleeper sleep 0"));
+        b.is("of the sixth, ahead of any other question", sixth.whom(5, 6), 63);
+        sixth.meet(0, 5);
+        sixth.tell(4, 5, 0);
+        b.is("of the sixth, one told of him", sixth.whom(5, 1), 16);
+        b.is("of the sixth, two", sixth.whom(5, 2), 18);
+        b.is("of the sixth, six", sixth.whom(5, 6), -1);
+        b.is("the marks of five", sixth.cover(5, 5), 9);
         DreamFort x = Check.made("prisoner years 1 marks ab;sleeper sleep 0;sleeper sleep 0");
         b.says(22, "COVER; NONE.");
         b.is("1 of 2", x.cover(0, 1), 2);
@@ -442,6 +453,10 @@ final class BoundsOfPlans {
         rumoursAre(Check.made("prisoner years 1;sleeper sleep 0"), 0, -1, -1);
         DreamFort again = Check.made("prisoner years 1 marks ab;sleeper sleep 0;told 0 0 a");
         rumoursAre(again, 2, 0, 0, 0, 0);
+        // of the second both were told one mark: by that one again he pulls no more, by the other he does
+        DreamFort same = Check.made("prisoner years 1 marks f;prisoner years 1 marks ab;sleeper sleep 0;told 0 0 f;told 0 1 b");
+        rumoursAre(same, 1, 6, -1, 0, 1);
+        rumoursAre(same, 2, 5, 0, 0, 0);
         DreamFort shared = Check.made("prisoner years 1 marks a;prisoner years 1 marks b;sleeper sleep 0;sleeper sleep 0;told 0 0 a",
                 "pull 1 if shared");
         // told to all, b is shared: 3 and more than a, which is not
@@ -463,6 +478,12 @@ final class BoundsOfPlans {
         six.fortress();
         rumoursAre(six, 4, 0, 5);
         rumoursAre(Check.made("prisoner years 1 marks ab"), 2, 0, -1);
+        // sleeper 0 dreams of nobody by the two marks of one out, sleeper 1 always of the other one
+        DreamFort out = Check.made("prisoner years 1 marks ab;prisoner years 1 marks c;sleeper sleep 100;sleeper sleep 0;told 0 0 ab;told 1 1 c");
+        out.nights(1);
+        for (int i = 0; i < 4; i++) {
+            rumoursAre(out, 3, 0, 0);
+        }
     }
 
     private void rumourTapes() {

@@ -31,6 +31,8 @@ final class BoundsOfSights {
         ofAMark();
         share();
         sound();
+        fullHouse();
+        fullHouseOut();
         toldFirst();
         changesNothing();
         noSuch();
@@ -56,6 +58,11 @@ final class BoundsOfSights {
             for (int what = 0; what < 9; what++) {
                 b.is("prisoner(" + p + ", " + what + ")", x.prisoner(p, what), due[p][what]);
             }
+        }
+        x.nights(1);
+        int[] out = {30, 7, 1, 0, 1, 1, 0, 0, 0};
+        for (int what = 0; what < 9; what++) {
+            b.is("out " + what, x.prisoner(0, what), out[what]);
         }
         DreamFort alone = Check.made("prisoner years 5 marks ab");
         int[] none = {5, 3, 0, 0, 2, -1, 0, -1, 0};
@@ -398,6 +405,92 @@ final class BoundsOfSights {
         b.says(44, "SOUND; NONE.");
         b.is("without sleepers", new DreamFort().sound(), -1);
         b.is("all of chance 0", Check.made("sleeper sleep 0;sleeper sleep 9 awake").sound(), 0);
+    }
+
+    // ---- a full house
+
+    /** Six prisoners with all marks, six sleepers, each told all of the one of its number: each is that one's good dream. */
+    private static DreamFort full() {
+        DreamFort x = Check.made("prisoner years 9 marks abcdef;prisoner years 19 marks abcdef;prisoner years 29 marks abcdef;"
+                + "prisoner years 39 marks abcdef;prisoner years 49 marks abcdef;prisoner years 59 marks abcdef;"
+                + BoundsOfTexts.times(6, "sleeper sleep 100") + ";strict 6");
+        Check.put(x, "told 0 0 abcdef;told 1 1 abcdef;told 2 2 abcdef;told 3 3 abcdef;told 4 4 abcdef;told 5 5 abcdef");
+        x.fortress();
+        return x;
+    }
+
+    private void fullHouse() {
+        b.says(Bounds.TERMS, "PRISONERS (at most 6, numbered from 0 on)");
+        DreamFort x = full();
+        int[] beds = {0, 0, 1, 1, 1, 2};
+        for (int i = 0; i < 6; i++) {
+            b.is("odds of " + i, x.prisoner(i, 3), 10000);
+            b.is("striking of " + i, x.prisoner(i, 4), 0);
+            b.is("mistaken of " + i, x.prisoner(i, 5), i == 0 ? 1 : 0);
+            b.is("dreams of " + i, x.prisoner(i, 6), 1 << i);
+            b.is("enemy of " + i, x.prisoner(i, 7), i);
+            b.is("worth of " + i, x.prisoner(i, 8), 10000);
+            b.is("dream of " + i, x.sleeper(i, 5), i);
+            b.is("share of " + i, x.sleeper(i, 7), 16);
+            b.is("outs of " + i, x.outs(i, 0), i);
+            b.is("couples of " + i, x.couples(i), -1);
+            b.is("beds of " + i, x.beds(i, 5), beds[i]);
+            b.is("mark " + i, x.mark(i), 63);
+            for (int s = 0; s < 6; s++) {
+                b.is("need of " + s + " and " + i, x.need(s, i), s == i ? 0 : i < s ? 63 : -1);
+            }
+        }
+        b.is("cover of all", x.cover(0, 6), 30);
+        b.is("whom of all", x.whom(0, 6), 63);
+        b.is("outs", x.outs(-1, 0), 204);
+        b.is("couples", x.couples(-1), 0);
+        b.is("beds of all", x.beds(0, 99) + x.beds(1, 99) + x.beds(2, 99) + x.beds(3, 99) + x.beds(4, 99) + x.beds(5, 99), 99);
+        b.is("sets of none", x.twice() + x.vain() + x.never() + x.out() + x.awake(), 0);
+        b.is("gossip", x.gossip(), 0);
+        b.is("longest", x.longest(), 5);
+        b.is("sound", x.sound(), 0);
+        b.is("twins", x.twins(), 15);
+        b.is("sworn", x.sworn(), 63);
+        b.is("likely", x.likely(), 0);
+        b.is("ask", x.ask(), 0);
+        Check.putRows(x, 5, 0);
+        b.is("likely by a wrong row", x.likely(), 0);
+        Check.putRows(x, 5, 1, 5, 1);
+        b.is("sworn by right ones", x.sworn(), 63);
+        b.is("rumour", x.rumour(false), 36);
+        b.is("first", x.rumour(true), 0);
+        b.is("next", x.next(), 0);
+        b.is("trial", x.trial(60, false), 63);
+        b.is("its dreams", x.trial(60, true), 6);
+        b.is("span", x.span(60, false), 204);
+    }
+
+    private void fullHouseOut() {
+        b.says(Bounds.TERMS, "SLEEPERS (at most 6, numbered from 0 on)");
+        DreamFort x = full();
+        b.is("all get out", x.nights(1), 6);
+        b.is("out", x.out(), 63);
+        b.is("years", x.count(6), 204);
+        for (int i = 0; i < 6; i++) {
+            b.is("rows of " + i, x.led(i, false), 1);
+            b.is("the row " + i + " ago", x.log(i, 1), 5 - i);
+            b.is("mistaken of " + i, x.prisoner(i, 5), -1);
+            b.is("striking of " + i, x.prisoner(i, 4), 6);
+            b.is("beds of " + i, x.beds(i, 99), 0);
+            b.is("outs of " + i, x.outs(i, 36), -1);
+            b.is("dream of " + i, x.sleeper(i, 5), -1);
+        }
+        b.is("outs", x.outs(-1, 36), 0);
+        b.is("longest", x.longest(), -1);
+        b.is("never", x.never(), 0);
+        b.is("vain", x.vain(), 0);
+        b.is("gossip", x.gossip(), 0);
+        b.is("sworn", x.sworn(), 63);
+        b.is("rumour", x.rumour(false), 36);
+        for (int i = 6; i >= 1; i--) {
+            b.is("taken back", x.retake(i - 1), i - 1);
+        }
+        b.is("all get out once more", x.nights(60), 6);
     }
 
     // ---- exceptions

@@ -676,6 +676,20 @@ final class BoundsOfTexts {
         refusesLaw("fade;@;fade");
         refusesLaw("fade @fade");
         refusesLaw("fade;@");
+        refusesLaw("@5");
+        refusesLaw("@5 if met");
+        refusesLaw("fade;@5");
+        manyLaws();
+    }
+
+    /** However many laws were read before, the latest holds with all its lines. */
+    private void manyLaws() {
+        DreamFort x = Check.made("prisoner years 1 marks ab;sleeper sleep 50;told 0 0 a");
+        for (int i = 0; i < 20; i++) {
+            Check.put(x, "pull 1 if 0" + "+1".repeat(100) + ">99;pull 2 if 0" + "+1".repeat(60) + ">60;pull " + i);
+            b.is("law " + i, x.law(), 3);
+            b.is("its pull", x.pull(0, 0), 3 + i);
+        }
     }
 
     private void pullLines() {
@@ -804,8 +818,11 @@ final class BoundsOfTexts {
             holds(words[i] + " > " + (due[i] - 1) + " and " + words[i] + " < " + (due[i] + 1), true);
             holds(words[i] + " > " + due[i] + " or " + words[i] + " < " + due[i], false);
         }
-        for (String none : new String[] {"strict", "night", "out", "met", "shared", "awake", "pull", "not", "chance"}) {
-            refusesLaw("fade if 1 < @" + none);
+        String[] nones = {"strict", "night", "out", "met", "shared", "awake", "pull", "wake", "fade", "if", "or", "and", "not", "chance", "a", "(",
+            ")", "<", ">", "+", ";", "=", "-"};
+        for (String none : nones) {
+            refusesLaw("fade if 1 < @" + none + " 1");
+            refusesLaw("fade if 1 + @" + none + " 1 < 2");
         }
     }
 
@@ -832,24 +849,29 @@ final class BoundsOfTexts {
 
     private void facts() {
         b.says(Bounds.TERMS, "Of a SLEEPER and a PRISONER: marks, told: how many MARKS he has, are TOLD of him; met: that one MET him;");
-        String law = "pull 1 if marks > 5;pull 2 if told > 5;pull 4 if marks < 1;pull 8 if told < 2;pull 16 if met";
+        String law = "pull 1 if marks > 5;pull 2 if told > 5;pull 4 if marks < 1;pull 8 if told < 2;pull 16 if met;pull 32 if not met";
         DreamFort x = Check.made("prisoner years 1 marks abcdef;prisoner years 1 marks c;sleeper sleep 1;sleeper sleep 1 met 0;"
                 + "told 0 0 abcdef;told 1 0 f;told 1 1 c", law);
-        b.is("six of six", x.pull(0, 0), 12 + 1 + 2);
+        b.is("six of six", x.pull(0, 0), 12 + 1 + 2 + 32);
         b.is("one of six, of one that it met", x.pull(1, 0), 2 + 1 + 8 + 16);
-        b.is("one of one, not met", x.pull(1, 1), 2 + 8);
+        b.is("one of one, not met", x.pull(1, 1), 2 + 8 + 32);
         b.says(Bounds.TERMS, "shared: another SLEEPER was TOLD some MARK of his (whichever).");
         DreamFort y = Check.made("prisoner years 1 marks ab;prisoner years 1 marks ab;sleeper sleep 1;sleeper sleep 1;told 0 0 a",
-                "pull 5 if shared");
+                "pull 5 if shared;pull 50 if not not shared;pull 0 if not shared");
         b.is("not by itself", y.pull(0, 0), 2);
         y.tell(1, 1, 0);
         b.is("not by what is told of another", y.pull(0, 0), 2);
         b.is("nor of that other", y.pull(1, 1), 2);
         y.tell(1, 0, 1);
-        b.is("by another mark of his", y.pull(0, 0), 7);
-        b.is("both ways", y.pull(1, 0), 7);
+        b.is("by another mark of his", y.pull(0, 0), 57);
+        b.is("both ways", y.pull(1, 0), 57);
         y.forget(0);
         b.is("not when the other forgot", y.pull(1, 0), 2);
+        DreamFort z = Check.made("prisoner years 1 marks a;prisoner years 1 marks a;sleeper sleep 1 met 0 awake;sleeper sleep 1;told 0 0 a;told 1 0 a;"
+                + "told 0 1 a", "pull 1 if not met;pull 2 if not shared;pull 4 if not awake");
+        b.is("met, shared, awake: none of the three", z.pull(0, 0), 2);
+        b.is("neither met nor shared, but awake", z.pull(0, 1), 5);
+        b.is("shared, neither met nor awake", z.pull(1, 0), 7);
     }
 
     // ---- words, blanks, depths
@@ -864,6 +886,13 @@ final class BoundsOfTexts {
         refuses("@sleepersleep 5");
         refuses("@nights 5");
         refuses("@nigh");
+        refuses("@nighta 5");
+        refuses("@nightz 5");
+        refuses("@znight 5");
+        refuses("night@{5");
+        refuses("night@`5");
+        refuses("night 5@/");
+        refuses("night 5@:");
         refuses("prisoner @yearsold 5");
         refuses("sleeper sleep 5 @awakes");
         refuses("@nIght 5");

@@ -29,6 +29,10 @@ public final class FaceTest {
         staticFieldsAreFinal();
         fewClassesAndFields();
         fewParametersAndNoOtherNames();
+        String source = bareSource();
+        noForbiddenWords(source);
+        plainThrows(source);
+        shortMethods(source);
         CHECK.finish();
     }
 
@@ -108,6 +112,51 @@ public final class FaceTest {
                 fields += Modifier.isStatic(f.getModifiers()) ? 0 : 1;
             }
             CHECK.due(c + " has twenty fields at most", fields <= 20, true);
+        }
+    }
+
+    /** The source without its comments, and with nothing in its texts; its lines stay where they are. */
+    private static String bareSource() throws Exception {
+        String text = Files.readString(Path.of("src/main/java/DreamFort.java"));
+        Matcher m = Pattern.compile("/\\*.*?\\*/|//[^\n]*|\"[^\"\n]*\"", Pattern.DOTALL).matcher(text);
+        return m.replaceAll(found -> found.group().startsWith("\"") ? "\"\"" : found.group().replaceAll("[^\n]", ""));
+    }
+
+    private static void noForbiddenWords(String source) {
+        String[] words = {"try", "catch", "finally", "synchronized", "assert", "native", "volatile", "transient", "package", "Object", "System\\.out",
+            "\\w+Exact", "->", "::", "double", "float", "hashCode", "toString", "getClass", "Random", "Thread", "nanoTime", "currentTimeMillis",
+            "getMessage", "protected"};
+        for (String word : words) {
+            String alone = Character.isLetter(word.charAt(0)) ? "\\b" + word + "\\b" : word;
+            CHECK.due("the source has no " + word, Pattern.compile(alone).matcher(source).find(), false);
+        }
+        Matcher imports = Pattern.compile("import ([^;]*);").matcher(source);
+        while (imports.find()) {
+            CHECK.due("import " + imports.group(1), imports.group(1).equals("java.util.NoSuchElementException"), true);
+        }
+    }
+
+    private static void plainThrows(String source) {
+        Matcher m = Pattern.compile("\\bthrow\\b[^;]*;").matcher(source);
+        String plain = "throw new (IllegalStateException|IllegalArgumentException|IndexOutOfBoundsException|UnsupportedOperationException"
+                + "|NoSuchElementException)\\(\"\"\\);";
+        while (m.find()) {
+            CHECK.due(m.group() + " is plain", m.group().matches(plain), true);
+        }
+    }
+
+    private static void shortMethods(String source) {
+        String[] lines = source.split("\n");
+        int begin = -1;
+        String indent = "";
+        for (int i = 0; i < lines.length; i++) {
+            if (lines[i].matches(" {4,8}[a-zA-Z].*[)] ?(throws .*)?[{]") && !lines[i].matches(" *(if|for|while|switch|else|do)\\b.*")) {
+                begin = i;
+                indent = lines[i].substring(0, lines[i].length() - lines[i].stripLeading().length());
+            } else if (begin >= 0 && lines[i].equals(indent + "}")) {
+                CHECK.due("sixty lines at most: " + lines[begin].trim(), i - begin < 60, true);
+                begin = -1;
+            }
         }
     }
 
